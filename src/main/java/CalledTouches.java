@@ -440,7 +440,7 @@ public final class CalledTouches {
             return true;
         }
 
-        /** One digit more is enough to look at: where two would help, one of them does. */
+        /** One place more is enough to try: where no single one mends an odd run, no more of them do. */
         static boolean canBecomeRight(int made, int lastPlace, int bells) {
             if (areRight(made, bells)) {
                 return true;

@@ -127,6 +127,7 @@ public final class PromisesTest {
         ring.append('p');
         due("bells(7) again", ring.bells(7), 7);
         due("leads begin anew", ring.count(2), 0);
+        due("no lead is called", ring.count(10), 0);
         due("the bob begins anew", ring.count(12), 73);
         due("the method begins anew", ring.count(1), 14);
         due("the pad stays", ring.count(14), 1);
@@ -447,6 +448,17 @@ public final class PromisesTest {
         ring.touch();
         ring.append('p');
         dueCounts(ring, 4, 2, 6, 12, 8, 0, 9, 9, 2, 1, 1, 4, 9, 12, 1, 3);
+        CalledTouches calls = ringing(4, "x.14", "bpsb");
+        due("called leads", calls.count(10), 3);
+        calls.cut(2);
+        due("called leads that are left", calls.count(10), 1);
+        CalledTouches fresh = new CalledTouches();
+        due("plain leads of 6 bells", fresh.count(11), 5);
+        CalledTouches neighbours = ringing(4, "x.14", "pp");
+        neighbours.call(1, 0);
+        due("leads without a row in common", neighbours.count(8), 0);
+        neighbours.add(1);
+        due("a third lead that shares a row with the second", neighbours.count(8), 1);
         CalledTouches once = ringing(4, "x.14", "pppp");
         dueCounts(once, 4, 2, 4, 8, 8, 1, -4, 8, 0, 1, 0, 4);
         CalledTouches within = ringing(4, "x.x", "ppp");
@@ -553,6 +565,9 @@ public final class PromisesTest {
         due("a single alone brings another row", single.best(), 2);
         CalledTouches full = ringing(4, "x", "pppppppppppppppp");
         due("best with 16", full.best(), 1);
+        CalledTouches longest = ringing(4, "x.x.x.x.x.x.x.x.x.x.x.x.x.x.x.x.x.x.x.x", "pppppppppppppppp");
+        due("rows of the longest touch", longest.count(3), 320);
+        due("the very last change tells", longest.best(), 1);
         due("nothing is changed", full.count(2), 16);
         due("no state more", full.count(15), 3);
     }

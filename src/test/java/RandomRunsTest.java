@@ -49,7 +49,12 @@ public final class RandomRunsTest {
         }
     }
 
+    /** Mostly from one below the range to one above it, now and then far outside. */
     private int pick(int least, int most) {
+        int far = random.nextInt(80);
+        if (far < 2) {
+            return far == 0 ? Integer.MIN_VALUE : Integer.MAX_VALUE;
+        }
         return least - 1 + random.nextInt(most - least + 3);
     }
 
@@ -64,7 +69,7 @@ public final class RandomRunsTest {
                 }
                 break;
             case 1:
-                number = random.nextInt(130) - 1;
+                number = random.nextInt(40) == 0 ? pick(0, 127) : random.nextInt(130) - 1;
                 check("call(" + kind + ", " + number + ")", real.call(kind, number), naive.call(kind, number));
                 break;
             case 2:
