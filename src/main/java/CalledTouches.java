@@ -329,16 +329,15 @@ public final class CalledTouches {
     private void begin(int bells) {
         now.bells = bells;
         now.leads = 0;
-        readStart(Start.bob(bells), bells);
+        char[] bob = Start.bob(bells).toCharArray();
+        char[] single = Start.single(bells).toCharArray();
+        char[] lead = Start.lead(bells).toCharArray();
+        reader.read(bob, bob.length, bells);
         now.bob = reader.places[0];
-        readStart(Start.single(bells), bells);
+        reader.read(single, single.length, bells);
         now.single = reader.places[0];
-        readStart(Start.lead(bells), bells);
+        reader.read(lead, lead.length, bells);
         now.takeMethod(reader);
-    }
-
-    private void readStart(String text, int bells) {
-        reader.read(text.toCharArray(), text.length(), bells);
     }
 
     private int countRows(int what) {
@@ -427,30 +426,15 @@ public final class CalledTouches {
             if (made < 0 || made >= all) {
                 return false;
             }
-            int place = 1;
-            while (place <= bells) {
-                if (has(made, place)) {
-                    place++;
-                } else if (place == bells || has(made, place + 1)) {
+            int notMade = 0;
+            for (int place = 1; place <= bells; place++) {
+                if (!has(made, place)) {
+                    notMade++;
+                } else if (notMade % 2 != 0) {
                     return false;
-                } else {
-                    place += 2;
                 }
             }
-            return true;
-        }
-
-        /** One place more is enough to try: where no single one mends an odd run, no more of them do. */
-        static boolean canBecomeRight(int made, int lastPlace, int bells) {
-            if (areRight(made, bells)) {
-                return true;
-            }
-            for (int place = lastPlace + 1; place <= bells; place++) {
-                if (areRight(made | bit(place), bells)) {
-                    return true;
-                }
-            }
-            return false;
+            return notMade % 2 == 0;
         }
     }
 
@@ -752,7 +736,7 @@ public final class CalledTouches {
                     return i;
                 }
             }
-            if (!isChangeComplete(bells)) {
+            if (!isChangeRight(bells)) {
                 return length;
             }
             keepChange();
@@ -771,7 +755,7 @@ public final class CalledTouches {
 
         private boolean acceptsDot(int bells) {
             // behind a dot another change must follow, which the last one that is allowed leaves no room for
-            if (changes >= MOST_CHANGES - 1 || !isChangeComplete(bells)) {
+            if (changes >= MOST_CHANGES - 1 || !isChangeRight(bells)) {
                 return false;
             }
             keepChange();
@@ -779,19 +763,22 @@ public final class CalledTouches {
         }
 
         private boolean acceptsCross(int bells) {
-            if (crossed || made != 0 || !Places.areRight(0, bells)) {
+            if (crossed || lastPlace > 0 || bells % 2 != 0) {
                 return false;
             }
             crossed = true;
             return true;
         }
 
+        /** So the places that are accepted have only even numbers of others between them. */
         private boolean acceptsPlace(int place, int bells) {
-            if (crossed || place <= lastPlace || place > bells) {
+            if (crossed || place <= lastPlace || place > bells || (place - lastPlace) % 2 == 0) {
                 return false;
             }
             int more = made | Places.bit(place);
-            if (!Places.canBecomeRight(more, place, bells)) {
+            boolean isFull = more == Places.bit(place + 1) - 1;
+            // a single place behind it would have to be made too, and none would be left
+            if (isFull && place >= bells - 1) {
                 return false;
             }
             made = more;
@@ -799,8 +786,8 @@ public final class CalledTouches {
             return true;
         }
 
-        private boolean isChangeComplete(int bells) {
-            return crossed || (made != 0 && Places.areRight(made, bells));
+        private boolean isChangeRight(int bells) {
+            return crossed || (lastPlace > 0 && (bells - lastPlace) % 2 == 0);
         }
 
         private void keepChange() {
