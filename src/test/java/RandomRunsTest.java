@@ -3,6 +3,8 @@ import java.util.Random;
 /** Long runs of calls, each answer held against the naive telling of the document. */
 public final class RandomRunsTest {
     private static final int CALLS = 512;
+    /** The calls of one step of a run: the longest text is written, read and taken over. */
+    private static final int MOST_CALLS_OF_A_STEP = 80;
     private static final String[] TEXTS = {"x.14.x.12", "14", "x.16.x.36.14.56", "5.1.5.123", "7.1.7.347.1.127.3",
         "3.1", "x", "1", "pbs", "bbspbb", "ppppppppppppppp", "ssbb", "34.x.14.12.x.14.x.34.x.14.1234",
         "12347.12345.12347.34567.1.3.5.7.1.12567.3.1.12347.127.147.167.3.1.5.7", "1256.1456.36", "x.x.x.x", "pppp"};
@@ -28,7 +30,7 @@ public final class RandomRunsTest {
     }
 
     private void run() {
-        while (calls < CALLS) {
+        while (calls + MOST_CALLS_OF_A_STEP <= CALLS) {
             int kind = random.nextInt(20);
             if (kind < 5) {
                 changeSomething();
