@@ -49,6 +49,7 @@ public final class HomeEdgesTest {
             }
             dueHome("come round", hunting("pbpbpbpb"));
             dueHome("come round by one kind", hunting("pp"));
+            dueHome("rounds backwards, the greatest row", Sentences.ringing(7, "7.1.7.1.7.1.7", "p"), 0);
             dueHome("320 rows", Sentences.ringing(4, TWENTY_CROSSES, "p".repeat(16)));
         });
         holds("behind some leads (of the method, each plain or with a call) the row is rounds", () -> {

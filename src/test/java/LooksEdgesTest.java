@@ -20,6 +20,7 @@ public final class LooksEdgesTest {
         blows();
         count();
         music();
+        rowsOfBefore();
         Sentences.end("LooksEdgesTest");
     }
 
@@ -321,6 +322,16 @@ public final class LooksEdgesTest {
             due("row(319, 4)", longest.row(319, 4), 1);
             due("row(320, 4)", longest.row(320, 4), 0);
         });
+        holds("(the first row that is the same) also of rounds backwards, the greatest row", () -> {
+            for (int bells = 4; bells <= 7; bells++) {
+                CalledTouches ring = ringing(bells, bells % 2 == 0 ? "x.1" + bells : bells + ".1", "p".repeat(16));
+                Sentences.same("row n", Sentences.row(ring, bells), "7654321".substring(7 - bells));
+                due("row(n, 4)", ring.row(bells, 4), bells);
+                due("row(3 * n, 4)", ring.row(3 * bells, 4), bells);
+                due("different rows", ring.count(7), 2 * bells);
+                due("the first repeat", ring.count(6), 2 * bells + 1);
+            }
+        });
         holds("the fewest leads home from it, NOT_FOUND if there are none", () -> {
             CalledTouches ring = ringing(4, "x.14", "pppp");
             ring.call(2, 9);
@@ -389,8 +400,10 @@ public final class LooksEdgesTest {
         });
         holds("how often it stays at its place by a change", () -> {
             due("no leads", of(4).path(1, 3), 0);
+            due("no leads, the bell n", of(4).path(4, 3), 0);
             CalledTouches one = ringing(4, "12", "p");
             due("the first change", one.path(1, 3), 1);
+            due("the bell n, not by this one", one.path(4, 3), 0);
             due("not by this one", one.path(3, 3), 0);
             CalledTouches ring = ringing(4, "x.14", "ppp");
             due("by the change 4, at the place 4", ring.path(1, 3), 1);
@@ -507,6 +520,57 @@ public final class LooksEdgesTest {
             due("two of 3", ringing(4, "x.12.34", "p").music(), 2.0 / 3.0);
             due("one of 9", ringing(4, HUNT + ".x", "p").music(), 1.0 / 9.0);
             due("half of 320", longest().music(), 0.5);
+            due("one row, which does", ringing(4, "34", "p").music(), 1.0);
+            due("one row, which does not", ringing(4, "x", "p").music(), 0.0);
+        });
+    }
+
+    private static String allLooks(CalledTouches ring) {
+        StringBuilder text = new StringBuilder();
+        for (int what = 0; what <= 14; what++) {
+            text.append(ring.count(what)).append(' ');
+        }
+        int bells = ring.count(0);
+        for (int bell = 1; bell <= bells; bell++) {
+            for (int what = 0; what <= 4; what++) {
+                text.append(ring.path(bell, what)).append(' ');
+            }
+            text.append(ring.blows(bell, 1)).append(' ').append(ring.blows(bell, bells)).append(' ');
+        }
+        return text.append(ring.music()).append(' ').append(ring.home(0)).append(' ').append(ring.best()).toString();
+    }
+
+    private static void rowsOfBefore() {
+        holds("(looks) rows that were rung before a cut are no rows of the touch", () -> {
+            CalledTouches ring = ringing(4, "12.12", "pp");
+            due("dodges", ring.path(4, 0), 2);
+            ring.cut(1);
+            dueDodges("after the cut", ring, 4, 0, -4);
+            for (int leads = 4; leads >= 0; leads--) {
+                CalledTouches cut = longest();
+                allLooks(cut);
+                cut.cut(leads);
+                CalledTouches made = ringing(4, TWENTY_CROSSES, "p".repeat(leads));
+                Sentences.same("all looks", allLooks(cut), allLooks(made));
+            }
+        });
+        holds("(looks) rows that another call or another lead would bring are no rows of the touch", () -> {
+            CalledTouches ring = ringing(5, "5.1", "pbs");
+            String before = allLooks(ring);
+            ring.ifCalled(0, 2, 0);
+            Sentences.same("all looks behind ifCalled", allLooks(ring), before);
+            ring.best();
+            Sentences.same("all looks behind best", allLooks(ring), before);
+        });
+        holds("(looks) as the bells and the method are then", () -> {
+            CalledTouches ring = longest();
+            allLooks(ring);
+            ring.bells(5);
+            Sentences.same("all looks behind bells", allLooks(ring), allLooks(of(5)));
+            Sentences.write(ring, "5.1");
+            ring.method();
+            ring.add(1);
+            Sentences.same("all looks behind method", allLooks(ring), allLooks(ringing(5, "5.1", "b")));
         });
     }
 }
