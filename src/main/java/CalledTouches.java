@@ -770,7 +770,7 @@ public final class CalledTouches {
             return true;
         }
 
-        /** So the places that are accepted have only even numbers of others between them. */
+        /** Refuses an odd gap at once, so that behind the last digit only the places after it are to be looked at. */
         private boolean acceptsPlace(int place, int bells) {
             if (crossed || place <= lastPlace || place > bells || (place - lastPlace) % 2 == 0) {
                 return false;
