@@ -71,6 +71,27 @@ public final class HomeEdgesTest {
             single.call(1, 12);
             dueHome("a single alone", single, 2);
         });
+        holds("(leads home) rows from which one came home by other calls", () -> {
+            CalledTouches ring = Sentences.ringing(4, "x.14", "pp");
+            due("row(1, 5) with a single", ring.call(1, 3), 9);
+            due("one comes home from the row 1 then", ring.row(1, 5) > 0 ? 1 : 0, 1);
+            due("and from the last one", ring.home(1), 2);
+            ring.call(1, 9);
+            ring.call(2, 9);
+            due("row(1, 5) with three leads alike", ring.row(1, 5), -4);
+            due("row(3, 5)", ring.row(3, 5), -4);
+            dueHome("three leads alike", ring, 0, 0);
+            CalledTouches other = Sentences.ringing(4, "x.12.14.12", "ppppp");
+            Sentences.same("row 4", Sentences.row(other, 4), "2341");
+            due("row(4, 5)", other.row(4, 5) > 0 ? 1 : 0, 1);
+            Sentences.write(other, "x.14");
+            other.method();
+            other.call(2, 9);
+            for (int k = 1; k <= 9; k += 2) {
+                due("row(" + k + ", 5) by another method", other.row(k, 5), -4);
+            }
+            dueHome("by another method", other, 0, 0, 0);
+        });
         holds("(leads home) as the method, the calls and the bells are then", () -> {
             CalledTouches ring = hunting("pb");
             dueHome("at first", ring, 1, 0);

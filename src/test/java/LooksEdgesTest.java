@@ -562,6 +562,18 @@ public final class LooksEdgesTest {
             ring.best();
             Sentences.same("all looks behind best", allLooks(ring), before);
         });
+        holds("(looks) where a row was rung first by another method, tells nothing", () -> {
+            CalledTouches ring = ringing(4, "x.x.12.12", "p");
+            dueTrue("rounds at the rows 2 and 4", ring, 0, 4, 3);
+            Sentences.write(ring, HUNT);
+            ring.method();
+            dueTrue("rounds at the row 8 alone", ring, 1, -4, 8);
+            Sentences.write(ring, "14.x.14.x.14.x.14.x");
+            ring.method();
+            dueTrue("the same rows from behind", ring, 1, -4, 8);
+            ring.add(0);
+            dueTrue("all of them twice", ring, 0, 9, 8);
+        });
         holds("(looks) as the bells and the method are then", () -> {
             CalledTouches ring = longest();
             allLooks(ring);
